@@ -99,6 +99,7 @@ public final class BeatsTest {
         due("at(4, 1, 1), no rest", x.at(4, 1, 1), 5);
         due("at(23, 8, 1)", x.at(23, 8, 1), 1);
         due("rope(4, 1)", x.rope(4, 1), 0);
+        due("rope(4, 2)", x.rope(4, 2), 0);
         due("rope(23, 0)", x.rope(23, 0), 24);
         due("rope(19, 3)", x.rope(19, 3), 0);
         due("rope(20, 3), rain all the same", x.rope(20, 3), 1);
@@ -160,6 +161,9 @@ public final class BeatsTest {
         due("spent()", Checks.teams("h11;a19;l19", "h19;a15").spent(), 0x0307);
         String rests = "rrrrrrrrrrrrrrrrrrrrrrrr";
         due("spent() by rest", Checks.teams("h11;h11;h11;h11;h11;h11;h11;h11", "h11", rests, "").spent(), 0x0100);
+        String late = "rrrrrrrrrrrrrrrrrrrrrrr";
+        due("spent() by the last beat", Checks.teams("h11;h12", "", late, "").spent(), 1);
+        due("spent() by rest on the last beat", Checks.teams("h11", "", late + "r", "").spent(), 0);
         due("spent() when one has won", Checks.teams("h99;h91", "").spent(), 2);
     }
 
@@ -167,6 +171,7 @@ public final class BeatsTest {
         CHECKS.promise(18, "best");
         due("best() of none", new TugOfWar().best(), TugOfWar.NONE);
         due("best()", Checks.teams("h11;h22", "h31;h22").best(), 1);
+        due("best() by 1", Checks.teams("", "h11").best(), 8);
         due("best() of team 1", Checks.teams("h11;h22", "h31;h32").best(), 9);
         due("best() of like ones", Checks.teams("h13", "h31;h13").best(), 0);
         TugOfWar x = Checks.teams("h15", "h15");

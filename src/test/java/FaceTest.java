@@ -96,6 +96,10 @@ public final class FaceTest {
             check(Modifier.isStatic(modifiers), "not static: " + inside);
             check(!Modifier.isPublic(modifiers) && !Modifier.isProtected(modifiers), "too visible: " + inside);
             check(fieldsOf(inside) <= 20, "too many fields: " + inside);
+            for (Method m : inside.getDeclaredMethods()) {
+                check(!publicNames.contains(m.getName()), "method with a public name " + m);
+                check(m.getParameterCount() <= 7, "too many parameters: " + m);
+            }
         }
         check(TugOfWar.class.getDeclaredClasses().length < 12, "too many classes");
         check(fieldsOf(TugOfWar.class) <= 20, "too many fields");

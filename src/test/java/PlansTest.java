@@ -81,7 +81,7 @@ public final class PlansTest {
         swap(x, 0, 0, 1, 13);
         due("it is still as told", x.puller(0, 0), 2);
         due("rope(23, 0)", x.rope(23, 0), 12);
-        // An anchor that was the last of eight is so no longer, even though team 1 has nobody ahead of number 8.
+        // An anchor that was the last of eight is so no longer, even if team 1 is empty.
         TugOfWar y = Checks.teams("a21;h11;h11;h11;h11;h11;h11;a11", "");
         y.mud(9);
         swap(y, 0, 0, 1, 13);
@@ -121,6 +121,14 @@ public final class PlansTest {
         due("spare(1)", x.spare(1), second);
     }
 
+    private static TugOfWar slipping(int... beats) {
+        TugOfWar x = Checks.teams("h99", "h99");
+        for (int beat : beats) {
+            x.event(0, beat, 0);
+        }
+        return x;
+    }
+
     private static void spare() {
         CHECKS.promise(23, "spare");
         // Each slip of team 0 costs 3 of the way: by four of them team 1 has won.
@@ -140,6 +148,11 @@ public final class PlansTest {
         spare(x, -1, -1, -1);
         due("all are still there", x.count(5), 7);
         due("won(0)", x.won(0), 1);
+        spare(slipping(0, 1, 2, 3), 1, 0, -1);
+        spare(slipping(0, 1, 2, 3, 4), 2, 0, 1);
+        // Those on beats 22 and 23 come when team 1 has won, so that it is no help if they are not.
+        spare(slipping(23, 0, 1, 2, 3, 22), 1, 1, -1);
+        spare(slipping(0, 23, 1, 2, 3, 4), 2, 0, 2);
         spare(Checks.teams("", "h99"), -1, -1, -1);
         spare(Checks.teams("h99", ""), 0, -1, -1);
         due("spare(-2)", x.spare(-2), TugOfWar.BAD);

@@ -1,3 +1,5 @@
+import java.math.BigInteger;
+
 /** Promises 24 to 30: what was seen, chances and years. */
 public final class SeenTest {
     private static final Checks CHECKS = new Checks("SeenTest");
@@ -124,8 +126,8 @@ public final class SeenTest {
         due("was(0, 0)", x.was(0, 0), 1 << 6 | 1 << 7 | 1 << 8);
         due("ask(0), all alike", x.ask(0), 0);
         x.forget();
-        // 3 and 4 are alike behind all beats; 5 is not behind beat 0.
         x.seen(0, 14);
+        due("was(0, 0)", x.was(0, 0), 1 << 3 | 1 << 4);
         due("ask(0)", x.ask(0), 0);
         x.seen(0, 13);
         due("ask(0), nothing fits", x.ask(0), 0);
@@ -133,6 +135,16 @@ public final class SeenTest {
         due("ask(1)", x.ask(1), TugOfWar.BAD);
         due("ask(8)", x.ask(8), TugOfWar.BAD);
         due("ask(16)", x.ask(16), TugOfWar.BAD);
+        // Behind beat 0 weights 7 to 9 are alike; behind beat 1 the rope has gone on by 8 and 9, not by 7.
+        TugOfWar y = Checks.teams("h92", "", "hp", "");
+        y.seen(0, 15);
+        y.mud(5);
+        due("was(0, 0)", y.was(0, 0), 1 << 7 | 1 << 8 | 1 << 9);
+        due("ask(0), 7 is apart from 8 and 9", y.ask(0), 1);
+        TugOfWar z = Checks.teams("l12", "", "ph", "");
+        z.seen(0, 12);
+        due("was(0, 0)", z.was(0, 0), 1 << 1 | 1 << 2);
+        due("ask(0), 1 is alike with 2", z.ask(0), 0);
         due("ask(8) of team 1", Checks.teams("", "h92", "", "hp").ask(8), 1);
     }
 
@@ -194,6 +206,25 @@ public final class SeenTest {
         chance(x, 4, 0, 0, 1);
     }
 
+    /** The lots as another kind of number tells them, held against what they do as calls. */
+    private static void yearsByLots() {
+        for (int seed = -20; seed < 20; seed++) {
+            StringBuilder calls = new StringBuilder();
+            BigInteger lot = BigInteger.valueOf(seed);
+            for (int i = 0; i < 24; i++) {
+                lot = lot.multiply(BigInteger.valueOf(1103515245)).add(BigInteger.valueOf(12345))
+                    .mod(BigInteger.ONE.shiftLeft(32));
+                calls.append("rph".charAt(lot.shiftRight(16).mod(BigInteger.valueOf(3)).intValue()));
+            }
+            for (int n = 0; n <= 24; n++) {
+                TugOfWar told = Checks.teams("h34;a23", "l39;a14", "hpr", calls.substring(0, n));
+                TugOfWar other = Checks.teams("h34;a23", "l39;a14", "hpr", "hhh");
+                due("years(" + seed + ", " + n + ", 0)", other.years(seed, n, 0), told.rope(23, 0));
+                due("years(" + seed + ", " + n + ", 1)", other.years(seed, n, 1), told.won(0));
+            }
+        }
+    }
+
     private static void years() {
         CHECKS.promise(30, "years");
         // The first lots: of seed 1 a heave, of seed 0 a rest, of seed -1 a pull.
@@ -205,6 +236,7 @@ public final class SeenTest {
         due("years(0, 1, 0), it holds first", y.years(0, 1, 0), 10);
         due("years(-1, 1, 0), it pulls", y.years(-1, 1, 0), 11);
         due("rope(23, 0), still as told", y.rope(23, 0), 11);
+        yearsByLots();
         TugOfWar z = Checks.teams("h99", "");
         due("years(5, 24, 0)", z.years(5, 24, 0), 24);
         due("years(5, 24, 1)", z.years(5, 24, 1), 0);

@@ -37,11 +37,16 @@ public final class SheetsTest {
         due("sheet(0, 2, 0)", x.sheet(0, 2, 0), 0);
         due("sheet(0, 2, 60)", x.sheet(0, 2, 60), 60);
         x.put(0, 2, 59, 7);
+        x.put(0, 2, 0, 8);
         due("sheet(0, 2, -1)", x.sheet(0, 2, -1), SIZE);
         due("get(0, 2, 59), as it was", x.get(0, 2, 59), 7);
         due("sheet(0, 2, 60)", x.sheet(0, 2, 60), 60);
         due("get(0, 2, 59), a new row", x.get(0, 2, 59), 0);
+        due("get(0, 2, 0), a new row", x.get(0, 2, 0), 0);
+        x.put(0, 2, 1, 5);
+        x.put(0, 2, 2, 6);
         due("sheet(0, 1, 3)", x.sheet(0, 1, 3), 3);
+        due("get(0, 1, 1)", x.get(0, 1, 1), 0);
         due("get(0, 1, 2)", x.get(0, 1, 2), 0);
         due("lose(1), another one", x.lose(1), NULL);
     }
@@ -194,6 +199,7 @@ public final class SheetsTest {
         for (int what = 0; what < 9; what++) {
             due("count(" + what + ")", x.count(what), due[what]);
         }
+        due("count(6) by the last beat", Checks.teams("h91", "", "rrrrrrrrrrrrrrrrrrrrrrr", "").count(6), 15);
         due("count(-1)", x.count(-1), TugOfWar.BAD);
         due("count(9)", x.count(9), TugOfWar.BAD);
         for (int text = 0; text < 4; text++) {
@@ -220,12 +226,30 @@ public final class SheetsTest {
         x.event(2, 1, 0);
         x.seen(4, x.rope(4, 0));
         due("digest() of two eights", x.digest(), digestOf(x));
+        digestOfLongOnes();
         long before = x.digest();
         x.lose(0);
         due("digest() after a FINDING", x.digest(), before);
         x.wipe(3);
         x.type(3, 'r');
         due("digest() is another one", x.digest() == before ? 1 : 0, 0);
+    }
+
+    private static void digestOfLongOnes() {
+        // Neither wins, and all have breath to the end, so that late beats differ.
+        TugOfWar x = Checks.teams("h29;l38;a19", "l37;h29;a28", "prrhrprhrrprrhrprrrhrprh", "rprhrprrhrprrhrrprhrrhrp");
+        due("digest() of a long one", x.digest(), digestOf(x));
+        // One event had better not be, not two.
+        TugOfWar y = Checks.teams("h99", "h99");
+        for (int beat = 0; beat < 4; beat++) {
+            y.event(0, beat, 0);
+        }
+        due("digest() with something to spare", y.digest(), digestOf(y));
+        TugOfWar z = Checks.teams("", "a29");
+        for (int seed = 0; seed < 4; seed++) {
+            due("digest() by years", z.digest(), digestOf(z));
+            Checks.type(z, 1, ";h3" + (seed + 1));
+        }
     }
 
     private static long mixed(long h, long... values) {

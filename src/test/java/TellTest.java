@@ -284,6 +284,11 @@ public final class TellTest {
         due("count(5)", x.count(5), 2);
         due("rope(1, 0)", x.rope(1, 0), 12);
         due("rope(2, 0)", x.rope(2, 0), 15);
+        put(x, 2, 0, 2, 2, 0, 0, 3, 0);
+        due("read of two that are whole", x.read(2), 2);
+        due("rope(3, 0)", x.rope(3, 0), 12);
+        x.back();
+        x.back();
         put(x, 2, 0, -1, 0, 0);
         due("read of one that may not be", x.read(2), 0);
         put(x, 3, 0, 1, 0, 0, 1, 0, 0, 1, 0, 0, 1, 0, 0, 1, 0, 0, 1, 0, 0, 1, 0, 0);
