@@ -3,12 +3,15 @@ import java.util.Random;
 /** Random runs of calls, held against the model; the seeds are fixed, so that a run that fails comes again. */
 public final class FuzzTest {
     private static final int RUNS = 400;
-    private static final int CALLS = 300;
+
+    /** An object is used for at most 512 calls; a step may be some 40 of them. */
+    private static final int CALLS = 460;
 
     private final Random random;
     private final TugOfWar x = new TugOfWar();
     private final Model m = new Model();
     private final StringBuilder told = new StringBuilder();
+    private int calls = 0;
     private int wrong = 0;
 
     private FuzzTest(long seed) {
@@ -32,7 +35,7 @@ public final class FuzzTest {
 
     private void run(int run) {
         typeTeams();
-        for (int i = 0; i < CALLS && wrong == 0; i++) {
+        while (calls < CALLS && wrong == 0) {
             step();
         }
         due("digest()", x.digest(), m.digest());
@@ -42,6 +45,7 @@ public final class FuzzTest {
     }
 
     private void due(String call, long got, long want) {
+        calls++;
         told.append(' ').append(call).append('=').append(got);
         if (got != want) {
             wrong++;
@@ -93,7 +97,7 @@ public final class FuzzTest {
         return s.toString();
     }
 
-    private String calls() {
+    private String callsText() {
         StringBuilder s = new StringBuilder();
         int n = random.nextInt(25);
         for (int i = 0; i < n; i++) {
@@ -104,7 +108,7 @@ public final class FuzzTest {
 
     private void typeTeams() {
         for (int text = 0; text < 4; text++) {
-            typeText(text, text < 2 ? team() : calls());
+            typeText(text, text < 2 ? team() : callsText());
         }
     }
 
@@ -132,7 +136,7 @@ public final class FuzzTest {
             case 2 -> {
                 wipe(text);
                 if (text >= 0 && text < 4) {
-                    typeText(text, text < 2 ? team() : calls());
+                    typeText(text, text < 2 ? team() : callsText());
                 }
             }
             case 3 -> {
@@ -193,7 +197,8 @@ public final class FuzzTest {
             case 3 -> due("spare(" + (three - 1) + ")", x.spare(three - 1), m.spare(three - 1));
             case 4 -> {
                 // A place that the ROPE was at keeps something that fits.
-                int place = random.nextInt(4) > 0 ? x.rope(upTo(23) , 0) : near(24);
+                calls += 2;
+                int place = random.nextInt(4) > 0 ? x.rope(upTo(23), 0) : near(24);
                 int b = random.nextInt(4) > 0 ? 23 : beat;
                 int at = b == 23 && random.nextInt(4) > 0 ? x.rope(23, 0) : place;
                 due("seen(" + b + "," + at + ")", x.seen(b, at), m.seen(b, at));

@@ -51,18 +51,30 @@ public final class RoomTest {
         x.digest();
     }
 
+    private static TugOfWar[] fullObjects() {
+        TugOfWar[] objects = new TugOfWar[20];
+        for (int i = 0; i < objects.length; i++) {
+            objects[i] = fullObject();
+        }
+        return objects;
+    }
+
+    /** Few rounds for each object, as it is used for at most 512 calls. */
+    private static void everyCall(TugOfWar[] objects) {
+        for (TugOfWar x : objects) {
+            everyCall(x);
+            everyCall(x);
+        }
+    }
+
     private static void callsMakeNothing() {
         com.sun.management.ThreadMXBean bean =
             (com.sun.management.ThreadMXBean) ManagementFactory.getThreadMXBean();
         long thread = Thread.currentThread().getId();
-        TugOfWar x = fullObject();
-        for (int i = 0; i < 40; i++) {
-            everyCall(x);
-        }
+        everyCall(fullObjects());
+        TugOfWar[] objects = fullObjects();
         long before = bean.getThreadAllocatedBytes(thread);
-        for (int i = 0; i < 40; i++) {
-            everyCall(x);
-        }
+        everyCall(objects);
         long made = bean.getThreadAllocatedBytes(thread) - before;
         CHECKS.due("is what 40 rounds of all calls make small (" + made + " bytes)", made < 4096 ? 1 : 0, 1);
         before = bean.getThreadAllocatedBytes(thread);
@@ -80,9 +92,9 @@ public final class RoomTest {
         }
         methods.sort(Comparator.comparing(Method::getName));
         Random random = new Random(38);
-        for (int run = 0; run < 60; run++) {
+        for (int run = 0; run < 90; run++) {
             TugOfWar x = run % 2 == 0 ? fullObject() : new TugOfWar();
-            for (int i = 0; i < 500; i++) {
+            for (int i = 0; i < 350; i++) {
                 Method m = methods.get(random.nextInt(methods.size()));
                 Object[] arguments = new Object[m.getParameterCount()];
                 for (int a = 0; a < arguments.length; a++) {

@@ -209,24 +209,39 @@ public final class SheetsTest {
         due("count(4)", x.count(4), 19);
     }
 
-    private static void digest() {
-        CHECKS.promise(38, "digest");
-        due("digest() of a new object", new TugOfWar().digest(), digestOf(new TugOfWar()));
+    private static TugOfWar small() {
         TugOfWar x = Checks.teams("h55;a44", "l53;h46");
         x.event(1, 2, 0);
         x.event(0, 4, 9);
-        due("digest(), from the shared runs", x.digest(), -7335853143557995426L);
-        due("digest()", x.digest(), digestOf(x));
+        return x;
+    }
+
+    private static TugOfWar withAFault() {
+        TugOfWar x = small();
         x.type(0, ';');
-        due("digest() with a fault", x.digest(), digestOf(x));
+        return x;
+    }
+
+    private static TugOfWar twoEights() {
+        TugOfWar x = withAFault();
         Checks.type(x, 0, "h91;l22;a33;h44;l55;a66");
         Checks.type(x, 1, ";a77;h11;l22;h33;a14;a95");
         Checks.type(x, 2, "hrphhrp");
         x.mud(2);
         x.event(2, 1, 0);
         x.seen(4, x.rope(4, 0));
-        due("digest() of two eights", x.digest(), digestOf(x));
+        return x;
+    }
+
+    private static void digest() {
+        CHECKS.promise(38, "digest");
+        due("digest() of a new object", new TugOfWar().digest(), Digest.of(TugOfWar::new));
+        due("digest(), from the shared runs", small().digest(), -7335853143557995426L);
+        due("digest()", small().digest(), Digest.of(SheetsTest::small));
+        due("digest() with a fault", withAFault().digest(), Digest.of(SheetsTest::withAFault));
+        due("digest() of two eights", twoEights().digest(), Digest.of(SheetsTest::twoEights));
         digestOfLongOnes();
+        TugOfWar x = twoEights();
         long before = x.digest();
         x.lose(0);
         due("digest() after a FINDING", x.digest(), before);
@@ -235,52 +250,26 @@ public final class SheetsTest {
         due("digest() is another one", x.digest() == before ? 1 : 0, 0);
     }
 
-    private static void digestOfLongOnes() {
-        // Neither wins, and all have breath to the end, so that late beats differ.
-        TugOfWar x = Checks.teams("h29;l38;a19", "l37;h29;a28", "prrhrprhrrprrhrprrrhrprh", "rprhrprrhrprrhrrprhrrhrp");
-        due("digest() of a long one", x.digest(), digestOf(x));
-        // One event had better not be, not two.
-        TugOfWar y = Checks.teams("h99", "h99");
+    /** Neither wins, and all have breath to the end, so that late beats differ. */
+    private static TugOfWar longOne() {
+        return Checks.teams("h29;l38;a19", "l37;h29;a28", "prrhrprhrrprrhrprrrhrprh", "rprhrprrhrprrhrrprhrrhrp");
+    }
+
+    /** One event had better not be, not two. */
+    private static TugOfWar withOneToSpare() {
+        TugOfWar x = Checks.teams("h99", "h99");
         for (int beat = 0; beat < 4; beat++) {
-            y.event(0, beat, 0);
+            x.event(0, beat, 0);
         }
-        due("digest() with something to spare", y.digest(), digestOf(y));
-        TugOfWar z = Checks.teams("", "a29");
-        for (int seed = 0; seed < 4; seed++) {
-            due("digest() by years", z.digest(), digestOf(z));
-            Checks.type(z, 1, ";h3" + (seed + 1));
-        }
+        return x;
     }
 
-    private static long mixed(long h, long... values) {
-        for (long v : values) {
-            h = 31 * h + v;
+    private static void digestOfLongOnes() {
+        due("digest() of a long one", longOne().digest(), Digest.of(SheetsTest::longOne));
+        due("digest() with something to spare", withOneToSpare().digest(), Digest.of(SheetsTest::withOneToSpare));
+        String[] rows = {"a29", "a29;h31", "a29;h31;h32", "a29;h31;h32;h33"};
+        for (String row : rows) {
+            due("digest() by years", Checks.teams("", row).digest(), Digest.of(() -> Checks.teams("", row)));
         }
-        return h;
-    }
-
-    private static long digestOf(TugOfWar x) {
-        long h = 17;
-        for (int what = 0; what < 8; what++) {
-            h = mixed(h, x.count(what));
-        }
-        h = mixed(h, x.fault(0), x.fault(1), x.fault(2), x.fault(3));
-        for (int b = 0; b < 24; b++) {
-            h = mixed(h, x.call(0, b), x.call(1, b), x.rope(b, 0), x.rope(b, 1), x.rope(b, 2), x.rope(b, 3));
-        }
-        for (int p = 0; p < 16; p++) {
-            if (x.puller(p, 0) != TugOfWar.BAD) {
-                h = mixed(h, x.puller(p, 0), x.puller(p, 1), x.puller(p, 2));
-                h = mixed(h, x.at(0, p, 0), x.at(0, p, 1), x.at(5, p, 0), x.at(5, p, 1));
-                h = mixed(h, x.at(12, p, 0), x.at(12, p, 1), x.at(23, p, 0), x.at(23, p, 1));
-                h = mixed(h, x.done(p), x.was(p, 0), x.was(p, 1), x.ask(p));
-            }
-        }
-        for (int t = 0; t < 2; t++) {
-            h = mixed(h, x.better(t, 4, 0), x.better(t, 4, 1), x.swap(t, 0), x.swap(t, 1), x.swap(t, 2));
-            h = mixed(h, x.out(t, 0), x.out(t, 1), x.chance(5, t, 0), x.chance(5, t, 1));
-        }
-        h = mixed(h, x.won(0), x.won(1), x.furthest(0), x.furthest(1), x.spent(), x.best(), x.level());
-        return mixed(h, x.spare(-1), x.spare(0), x.never(), x.years(7, 18, 0), x.years(7, 18, 1));
     }
 }

@@ -106,6 +106,7 @@ public final class TellTest {
             "h10", "h:1", "h1/", "h11,", "h111", ";", "h11;;", "h11;x", "h11;a12;h9a", EIGHT};
         int[] faults = {-1, 1, 2, -1, 4, 5, 6, -1, 0, 0, 0, 0, 1, 2, 1, 2, 3, 3, 0, 4, 4, 10, -1};
         for (int text = 0; text < 2; text++) {
+            x = new TugOfWar();
             for (int i = 0; i < teams.length; i++) {
                 x.wipe(text);
                 Checks.type(x, text, teams[i]);
@@ -116,6 +117,7 @@ public final class TellTest {
         String[] calls = {"", "r", "rph", "rpl", "q", "rphrphrphrphrphrphrphrph", "rphrphrphrphrphrphrphrpH", "h1"};
         int[] callFaults = {-1, -1, -1, 2, 0, -1, 23, 1};
         for (int text = 2; text < 4; text++) {
+            x = new TugOfWar();
             for (int i = 0; i < calls.length; i++) {
                 x.wipe(text);
                 Checks.type(x, text, calls[i]);
