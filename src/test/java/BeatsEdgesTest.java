@@ -8,6 +8,7 @@ public final class BeatsEdgesTest {
         ropeGoesFromBeatToBeat();
         ropeEndsAt0And24();
         nothingButRainBehindTheEnd();
+        nobodyDoesAnythingBehindTheEnd();
         breathGoesDownToNone();
         heavesNeedBreath();
         restGivesBreath();
@@ -119,6 +120,25 @@ public final class BeatsEdgesTest {
         due("rope(4, 3)", x.rope(4, 3), 2);
         due("rope(22, 3)", x.rope(22, 3), 2);
         due("rope(23, 3)", x.rope(23, 3), 3);
+    }
+
+    private static void nobodyDoesAnythingBehindTheEnd() {
+        CHECKS.sentence(13, "nobody pulls, HOLDS, rests on later BEATS: of all 16, whatever they did as it was told ahead");
+        String eight = Checks.row("h99", 7) + ";a99";
+        for (int team = 0; team < 2; team++) {
+            TugOfWar x = Checks.teams(eight, eight);
+            due("at(8, 15, 0), neither has WON", x.at(8, 15, 0), 11);
+            due("at(8, 7, 1), neither has WON", x.at(8, 7, 1), 0);
+            Checks.type(x, 3 - team, rests(20));
+            due("won(0)", x.won(0), team);
+            due("won(1)", x.won(1), 3);
+            for (int p = 0; p < 16; p++) {
+                for (int beat = 4; beat < 24; beat += 4) {
+                    due("at(" + beat + ", " + p + ", 0)", x.at(beat, p, 0), 0);
+                    due("at(" + beat + ", " + p + ", 1)", x.at(beat, p, 1), p / 8 == team ? 5 : 9);
+                }
+            }
+        }
     }
 
     // ---- 13 at

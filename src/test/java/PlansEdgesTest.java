@@ -17,11 +17,13 @@ public final class PlansEdgesTest {
         outOfNone();
         outOfOne();
         outOfEach();
+        outOfTheLastOne();
         outOfLikeOnes();
         spareNothing();
         spareOneOrTwo();
         spareNone();
         spareTheLeastRow();
+        plansInMudAndRain();
         CHECKS.end();
     }
 
@@ -241,6 +243,35 @@ public final class PlansEdgesTest {
         }
     }
 
+    private static void outOfTheLastOne() {
+        CHECKS.sentence(22, "not be there: without the last one, the one ahead of it is the last of its TEAM");
+        for (int team = 0; team < 2; team++) {
+            for (int n = 2; n <= 8; n++) {
+                int last = 8 * team + n - 1;
+                // Then the anchor pulls by 2 more, and all by 3 more than the others; else by 1 more at most.
+                String row = rowWith(n, n - 2, "a21", "h11");
+                out(against(team, row, "", Checks.pulling(n - 1), ""), team, last, place(team, 13));
+                // Then the anchor holds by 3 on each beat, up to the end.
+                out(Checks.oneTeam(team, rowWith(n, n - 2, "a31", "h11"), RESTS), team, last, place(team, 22));
+            }
+        }
+        CHECKS.sentence(22, "the others as they are: without another one, the last one is the last still");
+        for (int team = 0; team < 2; team++) {
+            for (int n = 2; n <= 8; n++) {
+                // Without the first one the anchor pulls by 3, and all by 3 more than the others.
+                String row = rowWith(n, n - 1, "a11", "h11");
+                out(against(team, row, "", Checks.pulling(n - 2), ""), team, 8 * team, place(team, 13));
+            }
+        }
+        CHECKS.sentence(22, "the others as they are: each keeps its number");
+        for (int team = 0; team < 2; team++) {
+            // Number 2 slips, whoever is not there; without number 0 numbers 1 and 3 pull by 6.
+            TugOfWar x = against(team, "h11;h31;h91;h31", "p" + RESTS, "", "");
+            x.event(0, 0, 8 * team + 2);
+            out(x, team, 8 * team, place(team, 14));
+        }
+    }
+
     private static void outOfLikeOnes() {
         CHECKS.sentence(22, "of like ones the least number");
         for (int team = 0; team < 2; team++) {
@@ -332,5 +363,47 @@ public final class PlansEdgesTest {
         }
         // 12 in all: without 3 TEAM 1 has not WON.
         spare(z, 1, 2, NONE);
+    }
+
+    // ---- all plans
+
+    private static void plansInMudAndRain() {
+        for (int team = 0; team < 2; team++) {
+            int p = 8 * team;
+            CHECKS.sentence(20, "in place of what is told: in MUD as told");
+            TugOfWar x = Checks.oneTeam(team, "h41", RESTS);
+            x.mud(5);
+            better(x, team, 3, 2, place(team, 13));
+            x.mud(6);
+            better(x, team, 3, 0, 12);
+            CHECKS.sentence(20, "in place of what is told: by EVENTS as told");
+            x.mud(0);
+            x.event(0, 3, p);
+            better(x, team, 3, 0, 12);
+            better(x, team, 4, 2, place(team, 14));
+            CHECKS.sentence(21, "change places: in MUD as told");
+            TugOfWar y = Checks.oneTeam(team, "a21;h91", "");
+            y.mud(9);
+            swap(y, team, p, p + 1, place(team, 13));
+            CHECKS.sentence(21, "each keeps its number: and slips by it");
+            TugOfWar slip = Checks.oneTeam(team, "a21;h91", "p" + RESTS);
+            slip.event(0, 0, p + 1);
+            // The anchor, the last then, pulls by 4 on beat 0; what it holds by 2 later moves nothing.
+            swap(slip, team, p, p + 1, place(team, 13));
+            CHECKS.sentence(22, "not be there: in MUD as told");
+            TugOfWar z = Checks.oneTeam(team, "h91;a31", "");
+            z.mud(9);
+            out(z, team, p, place(team, 13));
+        }
+        CHECKS.sentence(23, "had better not be: in MUD as told");
+        TugOfWar w = Checks.teams("h99", "h99");
+        for (int e = 0; e < 5; e++) {
+            w.event(0, e, 0);
+        }
+        spare(w, 2, 0, 1);
+        w.mud(1);
+        spare(w, 1, 0, NONE);
+        w.mud(9);
+        spare(w, 0, NONE, NONE);
     }
 }

@@ -1,15 +1,24 @@
+import java.util.ArrayList;
 import java.util.EnumMap;
 import java.util.List;
 import java.util.Map;
+import java.util.Random;
+import java.util.function.Supplier;
 
-/** A question that is answered changes nothing, in any of three states, and is answered alike when asked again. */
+/**
+ * A question that is answered changes nothing, in any of three states, and is answered alike when asked again, or
+ * behind any other questions.
+ */
 public final class QuestionsTest {
     private static final Checks CHECKS = new Checks("QuestionsTest");
     private static final Map<States, List<Long>> BEFORE = new EnumMap<>(States.class);
+    private static final List<Question> ASKED = new ArrayList<>();
 
     private interface Act {
         long on(TugOfWar x);
     }
+
+    private record Question(String call, Act act) { }
 
     public static void main(String[] args) {
         for (States s : States.values()) {
@@ -22,10 +31,16 @@ public final class QuestionsTest {
         aboutChances();
         aboutSheets();
         newObjectsShareNothing();
+        inAnyOrder(States.BLANK::make);
+        inAnyOrder(States.BUSY::make);
+        inAnyOrder(States.FULL::make);
+        inAnyOrder(() -> uneven(0));
+        inAnyOrder(() -> uneven(1));
         CHECKS.end();
     }
 
     private static void ask(String call, Act act) {
+        ASKED.add(new Question(call, act));
         for (States state : States.values()) {
             TugOfWar x = state.make();
             long answer = act.on(x);
@@ -141,5 +156,33 @@ public final class QuestionsTest {
         full.mud(9);
         CHECKS.due("is one made ahead of another as new", States.look(first).equals(BEFORE.get(States.BLANK)) ? 1 : 0, 1);
         CHECKS.due("is one made behind another as new", States.look(last).equals(BEFORE.get(States.BLANK)) ? 1 : 0, 1);
+    }
+
+    /** One TEAM has two to change places, the other one has one or none; TEAM 1 has WON by two EVENTS. */
+    private static TugOfWar uneven(int one) {
+        TugOfWar x = one == 0 ? Checks.teams("h99", "h99;h93") : Checks.teams("h99;a12", "");
+        x.event(0, 4, 0);
+        x.event(0, 5, 0);
+        x.seen(1, x.rope(1, 0));
+        return x;
+    }
+
+    private static void inAnyOrder(Supplier<TugOfWar> made) {
+        CHECKS.promise(0, "questions in any order");
+        List<Long> due = new ArrayList<>();
+        for (Question q : ASKED) {
+            due.add(q.act().on(made.get()));
+        }
+        Random random = new Random(512);
+        for (int run = 0; run < 60; run++) {
+            TugOfWar x = made.get();
+            String before = "the first";
+            for (int n = 0; n < 300; n++) {
+                int i = random.nextInt(ASKED.size());
+                String call = ASKED.get(i).call();
+                CHECKS.due(call + " behind " + before, ASKED.get(i).act().on(x), due.get(i));
+                before = call;
+            }
+        }
     }
 }

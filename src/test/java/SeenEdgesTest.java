@@ -21,10 +21,13 @@ public final class SeenEdgesTest {
         askOnTheFirstOfLikeOnes();
         askOnTheLastBeat();
         askOfThoseThatFit();
+        askByTheGreatestWeight();
+        inMudAsTold();
         chanceFrom0To16();
         chanceOfNoEvents();
         chanceInLowestTerms();
         chanceOfEightEvents();
+        chanceOfWhatIsToldNow();
         yearsFrom0To24();
         yearsByAnySeed();
         yearsInPlaceOfThoseTold();
@@ -299,6 +302,49 @@ public final class SeenEdgesTest {
         due("ask(0) of 1, 2", x.ask(0), 0);
     }
 
+    private static void askByTheGreatestWeight() {
+        CHECKS.sentence(28, "the greatest number of those of WEIGHTS: 9 is one of them");
+        // Behind beat 0 weights 5 to 9 are alike, behind beat 1 only 5 to 8: 9 goes by 1 more in the rain.
+        TugOfWar x = Checks.teams("h52", "", "hp", "");
+        for (int n = 0; n < 6; n++) {
+            x.event(1, 1, 0);
+        }
+        due("ask(0)", x.ask(0), 1);
+    }
+
+    private static void inMudAsTold() {
+        TugOfWar x = Checks.teams("h61", "");
+        x.mud(3);
+        x.event(0, 0, 0);
+        x.seen(0, 13);
+        CHECKS.sentence(26, "had it alone not been: in MUD as told");
+        due("never()", x.never(), 1);
+        CHECKS.sentence(27, "in place of its own: in MUD, by EVENTS as told");
+        due("was(0, 0), it slips", x.was(0, 0), 0);
+        x.back();
+        due("was(0, 0)", x.was(0, 0), 1 << 6 | 1 << 7 | 1 << 8);
+        due("was(0, 1), no anchor", x.was(0, 1), 3);
+        CHECKS.sentence(28, "WEIGHTS: in MUD as told");
+        TugOfWar y = Checks.teams("h52", "", "ph", "");
+        due("ask(0)", y.ask(0), 0);
+        y.mud(8);
+        due("ask(0) in mud", y.ask(0), 1);
+        CHECKS.sentence(29, "the chance that a TEAM has WON: in MUD as told");
+        TugOfWar z = Checks.teams("h94", "");
+        due("chance(5, 0, 0)", z.chance(5, 0, 0), 1);
+        z.mud(1);
+        due("chance(5, 0, 0) in mud", z.chance(5, 0, 0), 0);
+        CHECKS.sentence(30, "in place of those told: in MUD, by EVENTS as told");
+        TugOfWar w = Checks.teams("", "h41");
+        due("years(1, 0, 0)", w.years(1, 0, 0), 11);
+        w.mud(2);
+        due("years(1, 0, 0) in mud", w.years(1, 0, 0), 12);
+        w.mud(0);
+        w.event(1, 0, 0);
+        w.event(1, 0, 0);
+        due("years(1, 0, 0) in rain", w.years(1, 0, 0), 12);
+    }
+
     // ---- 29 chance
 
     private static void chance(TugOfWar x, int c, int team, BigInteger above, BigInteger below) {
@@ -381,6 +427,33 @@ public final class SeenEdgesTest {
         }
         due("chance(1, 0, 0)", z.chance(1, 0, 0), 2562890625L);
         due("chance(1, 0, 1)", z.chance(1, 0, 1), 4294967296L);
+    }
+
+    private static void chanceOfWhatIsToldNow() {
+        CHECKS.sentence(29, "the chance that a TEAM has WON: as it is told by now");
+        TugOfWar x = Checks.teams("h9", "");
+        x.event(1, 0, 0);
+        chance(x, 4, 0, BigInteger.ZERO, BigInteger.ONE);
+        x.type(0, '4');
+        chance(x, 4, 0, BigInteger.valueOf(3), BigInteger.valueOf(4));
+        x.event(1, 0, 0);
+        chance(x, 4, 0, BigInteger.valueOf(9), BigInteger.valueOf(16));
+        x.back();
+        chance(x, 4, 0, BigInteger.valueOf(3), BigInteger.valueOf(4));
+        x.sheet(0, 0, 3);
+        x.put(0, 0, 0, 1);
+        x.read(0);
+        chance(x, 4, 0, BigInteger.valueOf(9), BigInteger.valueOf(16));
+        x.mud(1);
+        chance(x, 4, 0, BigInteger.ZERO, BigInteger.ONE);
+        x.mud(0);
+        chance(x, 4, 0, BigInteger.valueOf(9), BigInteger.valueOf(16));
+        x.undo(0);
+        chance(x, 4, 0, BigInteger.ZERO, BigInteger.ONE);
+        x.type(0, '9');
+        chance(x, 4, 0, BigInteger.ONE, BigInteger.ONE);
+        x.wipe(0);
+        chance(x, 4, 0, BigInteger.ZERO, BigInteger.ONE);
     }
 
     // ---- 30 years

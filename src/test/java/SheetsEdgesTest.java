@@ -28,6 +28,8 @@ public final class SheetsEdgesTest {
         countOfTheLatestFinding();
         countWithoutAFault();
         digestWraps();
+        digestOnBeats();
+        digestOfPlans();
         digestOfWhatIsTold();
         CHECKS.end();
     }
@@ -504,6 +506,70 @@ public final class SheetsEdgesTest {
             due("digest() of " + n, Checks.teams(row, "h52").digest(), Digest.of(() -> Checks.teams(row, "h52")));
             due("digest() of " + n, Checks.teams("", row).digest(), Digest.of(() -> Checks.teams("", row)));
         }
+    }
+
+    /** Each BEAT differs from those beside it, up to the last one. */
+    private static TugOfWar upToTheLastBeat() {
+        return Checks.teams("h29;l38;a19", "l37;h29;a28", "prrhrprhrrprrhrprrrhrprh", "rprhrprrhrprrhrrprhrrhrp");
+    }
+
+    /** On each side of the BEATS that it asks a PULLER about. */
+    private static TugOfWar pullingOn(int beat) {
+        return Checks.teams("h12", "l12", "r".repeat(beat) + "p" + "r".repeat(23 - beat), "r".repeat(24));
+    }
+
+    private static void digestOnBeats() {
+        CHECKS.sentence(38, "of BEATS 0 to 23; of BEATS 0, 5, 12, 23");
+        due("digest()", upToTheLastBeat().digest(), Digest.of(SheetsEdgesTest::upToTheLastBeat));
+        for (int beat = 0; beat < 24; beat++) {
+            int b = beat;
+            due("digest(), a pull on " + b, pullingOn(b).digest(), Digest.of(() -> pullingOn(b)));
+        }
+    }
+
+    private static TugOfWar withEvents(String team0, String team1, String calls0, int[]... events) {
+        TugOfWar x = Checks.teams(team0, team1, calls0, "");
+        for (int[] e : events) {
+            x.event(e[0], e[1], e[2]);
+        }
+        return x;
+    }
+
+    /** Each TEAM has a chance of its own. */
+    private static TugOfWar withChances() {
+        return withEvents("h99", "h99", "", new int[] {0, 0, 0}, new int[] {0, 1, 0}, new int[] {0, 2, 0},
+            new int[] {0, 3, 0}, new int[] {0, 4, 8}, new int[] {0, 5, 8}, new int[] {0, 6, 8}, new int[] {0, 7, 8});
+    }
+
+    /** Two EVENTS had better not be. */
+    private static TugOfWar withTwoToSpare() {
+        return withEvents("h99", "h99;h93", "", new int[] {0, 4, 0}, new int[] {0, 5, 0});
+    }
+
+    /** A pull of TEAM 0 on BEAT 4 would be better, a rest of TEAM 1. */
+    private static TugOfWar withBetterCalls() {
+        return withEvents("h91", "h41", "r".repeat(24));
+    }
+
+    /** By a LOT more or less the other TEAM wins, or none. */
+    private static TugOfWar withTightYears() {
+        return withEvents("h39", "l92", "", new int[] {2, 16, 0});
+    }
+
+    private static void digestOfPlans() {
+        CHECKS.sentence(38, "of TEAMS better(it, 4, 0 and 1), ..., chance(5, it), above, below");
+        due("digest() with chances", withChances().digest(), Digest.of(SheetsEdgesTest::withChances));
+        due("chance(5, 1, 0)", withChances().chance(5, 1, 0), 625);
+        due("digest() with better calls", withBetterCalls().digest(), Digest.of(SheetsEdgesTest::withBetterCalls));
+        due("better(0, 4, 0)", withBetterCalls().better(0, 4, 0), 1);
+        CHECKS.sentence(38, "spare(NONE), spare(0), never(), years(7, 18, 0 and 1)");
+        due("digest() with two to spare", withTwoToSpare().digest(), Digest.of(SheetsEdgesTest::withTwoToSpare));
+        due("spare(-1)", withTwoToSpare().spare(-1), 2);
+        due("digest() with tight years", withTightYears().digest(), Digest.of(SheetsEdgesTest::withTightYears));
+        TugOfWar x = withTightYears();
+        due("years(7, 17, 1)", x.years(7, 17, 1), 1);
+        due("years(7, 18, 1)", x.years(7, 18, 1), -1);
+        due("years(7, 19, 1)", x.years(7, 19, 1), 1);
     }
 
     private static void digestOfWhatIsTold() {
